@@ -357,7 +357,9 @@ public final class Peatland {
 
     public int chain(int square, int back) throws IndexOutOfBoundsException {
         Square place = squareNumbered(square);
-        checkIndex(back, Integer.MAX_VALUE);
+        if (back < 0) {
+            throw new IndexOutOfBoundsException("back is below 0");
+        }
         return place.parcelBefore(back);
     }
 

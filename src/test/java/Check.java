@@ -50,6 +50,10 @@ final class Check {
         System.out.println(what + ": threw " + got + ", due is " + due.getName());
     }
 
+    static boolean isWrong() {
+        return wrong > 0;
+    }
+
     static void end(String test) {
         System.out.println(test + ": " + made + " checks, " + wrong + " wrong");
         if (wrong > 0 || made == 0) {

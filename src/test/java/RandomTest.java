@@ -1,0 +1,243 @@
+import java.util.Random;
+import java.util.function.IntSupplier;
+
+/** Random runs of 512 calls, each answer and all that can be asked compared with the model. */
+final class RandomTest {
+    private static final int RUNS = 200;
+    private static final int CALLS = 512;
+
+    private final Random random;
+    private final Peatland moor = new Peatland();
+    private final Model model = new Model();
+    private final int wildness;
+    private final int style;
+    private final String run;
+
+    private RandomTest(int seed) {
+        random = new Random(seed);
+        wildness = 5 + seed % 40;
+        style = seed % 4;
+        run = "run " + seed;
+    }
+
+    public static void main(String[] args) {
+        for (int seed = 0; seed < RUNS && !Check.isWrong(); seed++) {
+            new RandomTest(seed).play();
+        }
+        Check.end("RandomTest");
+    }
+
+    private void play() {
+        for (int i = 0; i < CALLS && !Check.isWrong(); i++) {
+            String at = run + ", call " + i;
+            int which = pick();
+            int[] a = arguments(which);
+            boolean flag = random.nextBoolean();
+            long due = outcome(() -> onModel(which, a, flag));
+            long got = outcome(() -> onMoor(which, a, flag));
+            Check.due(at + ", " + which + told(a) + flag, got, due);
+            if (i % 32 == 31 || got < -9 && i % 32 == 7) {
+                compareAll(at);
+            }
+        }
+    }
+
+    /** Some runs are rather of parcels and cases, some of rights and sheep, some of days. */
+    private int pick() {
+        int which = random.nextInt(20);
+        int once = random.nextInt(3);
+        if (style == 1 && once > 0) {
+            return new int[] {0, 1, 2, 4, 4, 5, 5, 6, 6, 7, 7}[random.nextInt(11)];
+        }
+        if (style == 2 && once > 0) {
+            return new int[] {0, 1, 8, 8, 9, 10, 10}[random.nextInt(7)];
+        }
+        if (style == 3 && once > 0) {
+            return new int[] {3, 4, 5, 6, 7, 11, 14, 16, 17, 17, 17}[random.nextInt(11)];
+        }
+        return which == 19 && random.nextInt(6) > 0 ? 17 : which;
+    }
+
+    private int within(int count) {
+        if (random.nextInt(100) < wildness / 10) {
+            int[] edges = {-1, count, Integer.MIN_VALUE, Integer.MAX_VALUE, count + 1};
+            return edges[random.nextInt(edges.length)];
+        }
+        return random.nextInt(Math.max(1, count));
+    }
+
+    private int second(int from) {
+        if (from < 0 || from > 99 || random.nextInt(100) < wildness) {
+            return within(100);
+        }
+        return from + random.nextInt(10 - from % 10) + 10 * random.nextInt(10 - from / 10);
+    }
+
+    private int parcel() {
+        return within(model.parcels());
+    }
+
+    /** Few persons meet more often in some runs. */
+    private int person() {
+        return within(style == 1 || style == 3 ? 4 : 12);
+    }
+
+    private int[] arguments(int which) {
+        int s = random.nextInt(4) == 0 ? 0 : within(100);
+        switch (which) {
+            case 0:
+                return new int[] {parcel(), s, second(s), person()};
+            case 1:
+                return new int[] {parcel(), parcel()};
+            case 2: case 3: case 4:
+                return new int[] {person(), s, random.nextInt(4) == 0 ? 99 : second(s)};
+            case 5:
+                return new int[] {within(model.caseCount()), within(11)};
+            case 6: case 7:
+                return new int[] {within(model.caseCount())};
+            case 8:
+                return new int[] {within(3), parcel(), within(12), within(random.nextBoolean() ? 100 : 12)};
+            case 9:
+                return new int[] {within(model.rightCount())};
+            case 10:
+                return new int[] {person(), parcel(), within(random.nextInt(9) == 0 ? 401 : 12)};
+            case 11: case 12: case 13:
+                int step = new int[] {1, -1, 10, -10}[random.nextInt(4)];
+                int first = which == 12 ? s : within(which == 13 ? model.drainCount() : 62);
+                return new int[] {first, random.nextInt(9) == 0 ? within(100) : s + step};
+            case 14:
+                return new int[] {person(), s, within(22)};
+            case 15:
+                return new int[] {within(random.nextBoolean() ? 4 : 11)};
+            case 16:
+                return new int[] {person(), s};
+            case 17:
+                return new int[] {within(random.nextBoolean() ? 60 : 202)};
+            default:
+                return new int[] {within(12), within(12)};
+        }
+    }
+
+    private long onModel(int which, int[] a, boolean flag) {
+        switch (which) {
+            case 0: return model.grant(a[0], a[1], a[2], a[3]);
+            case 1: return model.merge(a[0], a[1]);
+            case 2: return model.survey(a[0], a[1], a[2]);
+            case 3: return model.use(a[0], a[1], a[2]);
+            case 4: return model.file(a[0], flag, a[1], a[2]);
+            case 5: return model.evidence(a[0], flag, a[1]);
+            case 6: return model.decide(a[0]);
+            case 7: return model.appeal(a[0]);
+            case 8: return model.register(a[0], a[1], a[2], a[3]);
+            case 9: return model.release(a[0]);
+            case 10: return model.graze(a[0], a[1], a[2]);
+            case 11: return model.rain(a[0]);
+            case 12: return model.dig(a[0], a[1]);
+            case 13: return model.fill(a[0]);
+            case 14: return model.cut(a[0], a[1], a[2]);
+            case 15: return model.wind(a[0]);
+            case 16: return model.burn(a[0], a[1]);
+            case 17: return model.pass(a[0]);
+            case 18: return model.name(a[0], a[1]);
+            default: return model.die(a[0]);
+        }
+    }
+
+    private long onMoor(int which, int[] a, boolean flag) {
+        switch (which) {
+            case 0: return moor.grant(a[0], a[1], a[2], a[3]);
+            case 1: return moor.merge(a[0], a[1]);
+            case 2: return moor.survey(a[0], a[1], a[2]);
+            case 3: return moor.use(a[0], a[1], a[2]);
+            case 4: return moor.file(a[0], flag, a[1], a[2]);
+            case 5: return moor.evidence(a[0], flag, a[1]);
+            case 6: return moor.decide(a[0]);
+            case 7: return moor.appeal(a[0]);
+            case 8: return moor.register(a[0], a[1], a[2], a[3]);
+            case 9: return moor.release(a[0]) ? 1 : 0;
+            case 10: return moor.graze(a[0], a[1], a[2]);
+            case 11: return moor.rain(a[0]);
+            case 12: return moor.dig(a[0], a[1]);
+            case 13: return moor.fill(a[0]);
+            case 14: return moor.cut(a[0], a[1], a[2]);
+            case 15: return moor.wind(a[0]);
+            case 16: return moor.burn(a[0], a[1]);
+            case 17: return moor.pass(a[0]);
+            case 18: return moor.name(a[0], a[1]);
+            default: return moor.die(a[0]);
+        }
+    }
+
+    private interface Outcome {
+        long get();
+    }
+
+    /** What it answers, or a number below -9 for what it throws. */
+    private static long outcome(Outcome call) {
+        try {
+            return call.get();
+        } catch (RuntimeException e) {
+            if (e.getClass() == IndexOutOfBoundsException.class) {
+                return -10;
+            }
+            if (e.getClass() == IllegalArgumentException.class) {
+                return -20;
+            }
+            return e.getClass() == IllegalStateException.class ? -30 : -40;
+        }
+    }
+
+    private void compare(String what, IntSupplier got, IntSupplier due) {
+        Check.due(what, outcome(got::getAsInt), outcome(due::getAsInt));
+    }
+
+    private void compareAll(String at) {
+        compare(at + " today", moor::today, model::today);
+        compare(at + " parcels", moor::parcels, model::parcels);
+        for (int i = -1; i <= 100; i++) {
+            int s = i;
+            compare(at + " parcelOf " + s, () -> moor.parcelOf(s), () -> model.parcelOf(s));
+            compare(at + " disputed " + s, () -> moor.disputed(s), () -> model.disputed(s));
+            for (int w = -1; w <= 4; w++) {
+                int what = w;
+                compare(at + " square " + s + "," + w, () -> moor.square(s, what), () -> model.square(s, what));
+                compare(at + " chain " + s + "," + w, () -> moor.chain(s, what), () -> model.chain(s, what));
+            }
+        }
+        compareParcels(at);
+        compareNumbered(at);
+    }
+
+    private void compareParcels(String at) {
+        for (int i = -1; i <= model.parcels(); i++) {
+            int p = i;
+            compare(at + " area " + p, () -> moor.area(p), () -> model.area(p));
+            compare(at + " owner " + p, () -> moor.owner(p), () -> model.owner(p));
+            for (int j = -1; j <= 12; j++) {
+                int person = j;
+                compare(at + " sheep " + j + "," + p, () -> moor.sheep(person, p), () -> model.sheep(person, p));
+            }
+        }
+    }
+
+    private void compareNumbered(String at) {
+        for (int i = -1; i <= 81; i++) {
+            int n = i;
+            compare(at + " water " + n, () -> moor.water(n), () -> model.water(n));
+            compare(at + " paid " + n, () -> moor.paid(n), () -> model.paid(n));
+            for (int w = -1; w <= 5; w++) {
+                int what = w;
+                compare(at + " rightAt " + n + "," + w, () -> moor.rightAt(n, what), () -> model.rightAt(n, what));
+                compare(at + " caseAt " + n + "," + w, () -> moor.caseAt(n, what), () -> model.caseAt(n, what));
+            }
+        }
+    }
+
+    private static String told(int[] a) {
+        StringBuilder text = new StringBuilder("(");
+        for (int each : a) {
+            text.append(each).append(' ');
+        }
+        return text.append(')').toString();
+    }
+}
