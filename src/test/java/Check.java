@@ -41,13 +41,19 @@ final class Check {
         try {
             call.run();
         } catch (RuntimeException e) {
-            if (e.getClass() == due) {
+            if (e.getClass() == due && isThrownBy("Peatland", e)) {
                 return;
             }
-            got = e.getClass().getName();
+            got = e.getClass().getName() + (isThrownBy("Peatland", e) ? "" : " of the machine or the library");
         }
         wrong++;
         System.out.println(what + ": threw " + got + ", due is " + due.getName());
+    }
+
+    /** What the machine throws by itself, and what a list throws, the program has to be ahead of. */
+    static boolean isThrownBy(String program, RuntimeException e) {
+        StackTraceElement[] trace = e.getStackTrace();
+        return trace.length > 0 && trace[0].getClassName().startsWith(program);
     }
 
     static boolean isWrong() {

@@ -33,14 +33,7 @@ final class ParcelTest {
         Check.due("1 area", x.area(0), 100);
         Check.due("1 today", x.today(), 0);
         for (int s = 0; s < 100; s++) {
-            Check.due("1 parcelOf " + s, x.parcelOf(s), 0);
-            Check.due("1 chain " + s, x.chain(s, 0), 0);
-            Check.due("1 chain behind " + s, x.chain(s, 1), Peatland.NONE);
-            Check.due("1 peat " + s, x.square(s, 0), 50);
-            Check.due("1 water " + s, x.square(s, 1), 40);
-            Check.due("1 birds " + s, x.square(s, 2), 0);
-            Check.due("1 user " + s, x.square(s, 3), Peatland.NONE);
-            Check.due("1 disputed " + s, x.disputed(s), 0);
+            newSquare(s);
         }
         for (int p = 0; p < 12; p++) {
             Check.due("1 paid " + p, x.paid(p), 0);
@@ -52,6 +45,18 @@ final class ParcelTest {
         Check.due("1 ran off", x.water(2), 0);
         Check.due("1 dried", x.water(3), 0);
         Check.due("1 wind", x.wind(1), 0);
+    }
+
+    private static void newSquare(int s) {
+        Peatland x = new Peatland();
+        Check.due("1 parcelOf " + s, x.parcelOf(s), 0);
+        Check.due("1 chain " + s, x.chain(s, 0), 0);
+        Check.due("1 chain behind " + s, x.chain(s, 1), Peatland.NONE);
+        Check.due("1 peat " + s, x.square(s, 0), 50);
+        Check.due("1 water " + s, x.square(s, 1), 40);
+        Check.due("1 birds " + s, x.square(s, 2), 0);
+        Check.due("1 user " + s, x.square(s, 3), Peatland.NONE);
+        Check.due("1 disputed " + s, x.disputed(s), 0);
     }
 
     private static void grantField() {

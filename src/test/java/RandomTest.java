@@ -1,10 +1,12 @@
 import java.util.Random;
-import java.util.function.IntSupplier;
 
-/** Random runs of 512 calls, each answer and all that can be asked compared with the model. */
+/** Random runs of the 512 calls that an object is used for, each answer compared with the model's. */
 final class RandomTest {
-    private static final int RUNS = 200;
+    private static final int RUNS = 3000;
     private static final int CALLS = 512;
+    /** From this call on only questions are asked, which show what the calls ahead of it left. */
+    private static final int LAST_QUESTIONS = 380;
+    private static final int FIRST_QUESTION = 20;
 
     private final Random random;
     private final Peatland moor = new Peatland();
@@ -29,16 +31,13 @@ final class RandomTest {
 
     private void play() {
         for (int i = 0; i < CALLS && !Check.isWrong(); i++) {
-            String at = run + ", call " + i;
-            int which = pick();
-            int[] a = arguments(which);
+            boolean isQuestion = i >= LAST_QUESTIONS || random.nextInt(100) < 25;
+            int which = isQuestion ? FIRST_QUESTION + random.nextInt(13) : pick();
+            int[] a = isQuestion ? subject(which) : arguments(which);
             boolean flag = random.nextBoolean();
-            long due = outcome(() -> onModel(which, a, flag));
-            long got = outcome(() -> onMoor(which, a, flag));
-            Check.due(at + ", " + which + told(a) + flag, got, due);
-            if (i % 32 == 31 || got < -9 && i % 32 == 7) {
-                compareAll(at);
-            }
+            long due = outcome(() -> isQuestion ? askModel(which, a) : onModel(which, a, flag));
+            long got = outcome(() -> isQuestion ? askMoor(which, a) : onMoor(which, a, flag));
+            Check.due(run + ", call " + i + ", " + which + told(a) + flag, got, due);
         }
     }
 
@@ -118,6 +117,29 @@ final class RandomTest {
         }
     }
 
+    private int[] subject(int which) {
+        switch (which) {
+            case 20: case 21:
+                return new int[0];
+            case 22: case 26:
+                return new int[] {within(100)};
+            case 23: case 29:
+                return new int[] {within(100), within(4)};
+            case 24: case 25:
+                return new int[] {parcel()};
+            case 27:
+                return new int[] {within(model.caseCount()), within(4)};
+            case 28:
+                return new int[] {within(model.rightCount()), within(5)};
+            case 30:
+                return new int[] {within(4)};
+            case 31:
+                return new int[] {person()};
+            default:
+                return new int[] {person(), parcel()};
+        }
+    }
+
     private long onModel(int which, int[] a, boolean flag) {
         switch (which) {
             case 0: return model.grant(a[0], a[1], a[2], a[3]);
@@ -168,6 +190,42 @@ final class RandomTest {
         }
     }
 
+    private long askModel(int which, int[] a) {
+        switch (which) {
+            case 20: return model.today();
+            case 21: return model.parcels();
+            case 22: return model.parcelOf(a[0]);
+            case 23: return model.chain(a[0], a[1]);
+            case 24: return model.area(a[0]);
+            case 25: return model.owner(a[0]);
+            case 26: return model.disputed(a[0]);
+            case 27: return model.caseAt(a[0], a[1]);
+            case 28: return model.rightAt(a[0], a[1]);
+            case 29: return model.square(a[0], a[1]);
+            case 30: return model.water(a[0]);
+            case 31: return model.paid(a[0]);
+            default: return model.sheep(a[0], a[1]);
+        }
+    }
+
+    private long askMoor(int which, int[] a) {
+        switch (which) {
+            case 20: return moor.today();
+            case 21: return moor.parcels();
+            case 22: return moor.parcelOf(a[0]);
+            case 23: return moor.chain(a[0], a[1]);
+            case 24: return moor.area(a[0]);
+            case 25: return moor.owner(a[0]);
+            case 26: return moor.disputed(a[0]);
+            case 27: return moor.caseAt(a[0], a[1]);
+            case 28: return moor.rightAt(a[0], a[1]);
+            case 29: return moor.square(a[0], a[1]);
+            case 30: return moor.water(a[0]);
+            case 31: return moor.paid(a[0]);
+            default: return moor.sheep(a[0], a[1]);
+        }
+    }
+
     private interface Outcome {
         long get();
     }
@@ -177,6 +235,9 @@ final class RandomTest {
         try {
             return call.get();
         } catch (RuntimeException e) {
+            if (!Check.isThrownBy("Peatland", e) && !Check.isThrownBy("Model", e)) {
+                return -50;
+            }
             if (e.getClass() == IndexOutOfBoundsException.class) {
                 return -10;
             }
@@ -184,52 +245,6 @@ final class RandomTest {
                 return -20;
             }
             return e.getClass() == IllegalStateException.class ? -30 : -40;
-        }
-    }
-
-    private void compare(String what, IntSupplier got, IntSupplier due) {
-        Check.due(what, outcome(got::getAsInt), outcome(due::getAsInt));
-    }
-
-    private void compareAll(String at) {
-        compare(at + " today", moor::today, model::today);
-        compare(at + " parcels", moor::parcels, model::parcels);
-        for (int i = -1; i <= 100; i++) {
-            int s = i;
-            compare(at + " parcelOf " + s, () -> moor.parcelOf(s), () -> model.parcelOf(s));
-            compare(at + " disputed " + s, () -> moor.disputed(s), () -> model.disputed(s));
-            for (int w = -1; w <= 4; w++) {
-                int what = w;
-                compare(at + " square " + s + "," + w, () -> moor.square(s, what), () -> model.square(s, what));
-                compare(at + " chain " + s + "," + w, () -> moor.chain(s, what), () -> model.chain(s, what));
-            }
-        }
-        compareParcels(at);
-        compareNumbered(at);
-    }
-
-    private void compareParcels(String at) {
-        for (int i = -1; i <= model.parcels(); i++) {
-            int p = i;
-            compare(at + " area " + p, () -> moor.area(p), () -> model.area(p));
-            compare(at + " owner " + p, () -> moor.owner(p), () -> model.owner(p));
-            for (int j = -1; j <= 12; j++) {
-                int person = j;
-                compare(at + " sheep " + j + "," + p, () -> moor.sheep(person, p), () -> model.sheep(person, p));
-            }
-        }
-    }
-
-    private void compareNumbered(String at) {
-        for (int i = -1; i <= 81; i++) {
-            int n = i;
-            compare(at + " water " + n, () -> moor.water(n), () -> model.water(n));
-            compare(at + " paid " + n, () -> moor.paid(n), () -> model.paid(n));
-            for (int w = -1; w <= 5; w++) {
-                int what = w;
-                compare(at + " rightAt " + n + "," + w, () -> moor.rightAt(n, what), () -> model.rightAt(n, what));
-                compare(at + " caseAt " + n + "," + w, () -> moor.caseAt(n, what), () -> model.caseAt(n, what));
-            }
         }
     }
 
