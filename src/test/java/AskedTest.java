@@ -396,7 +396,7 @@ final class AskedTest {
         }
     }
 
-    // Terms: "parcels, chains, shares, waters, birds and accounts are asked, which changes nothing"
+    // Terms, promises 22 to 34: "parcels, chains, shares, waters, birds and accounts are asked, which changes nothing"
     private static void askingChangesNothing() {
         Scene.unchanged("asking squares", Scene::busy, x -> {
             for (int s = 0; s < 100; s += 9) {

@@ -94,7 +94,7 @@ final class RefusedTest {
         return x;
     }
 
-    // Terms: "A call that throws an exception changes nothing." Promise 2
+    // Terms, promise 2: "A call that throws an exception changes nothing."
     private static void grantChangesNothing() {
         refused(Scene::busy, INDEX, x -> x.grant(99, 0, 0, 0));
         refused(Scene::busy, INDEX, x -> x.grant(0, 50, 100, 0));
@@ -106,7 +106,7 @@ final class RefusedTest {
         refused(RefusedTest::seventyRights, STATE, x -> x.grant(1, 0, 0, 5));
     }
 
-    // Terms: "A call that throws an exception changes nothing." Promise 3
+    // Terms, promise 3: "A call that throws an exception changes nothing."
     private static void mergeChangesNothing() {
         refused(Scene::busy, INDEX, x -> x.merge(1, 99));
         refused(Scene::busy, INDEX, x -> x.merge(-1, 1));
@@ -115,7 +115,7 @@ final class RefusedTest {
         refused(RefusedTest::seventyRights, STATE, x -> x.merge(1, 2));
     }
 
-    // Terms: "A call that throws an exception changes nothing." Promise 4
+    // Terms, promise 4: "A call that throws an exception changes nothing."
     private static void surveyChangesNothing() {
         refused(Scene::busy, INDEX, x -> x.survey(12, 0, 99));
         refused(Scene::busy, INDEX, x -> x.survey(5, 0, 100));
@@ -124,7 +124,7 @@ final class RefusedTest {
         refused(RefusedTest::full, STATE, x -> x.survey(5, 0, 99));
     }
 
-    // Terms: "A call that throws an exception changes nothing." Promise 5
+    // Terms, promise 5: "A call that throws an exception changes nothing."
     private static void useChangesNothing() {
         refused(Scene::busy, INDEX, x -> x.use(12, 0, 99));
         refused(Scene::busy, INDEX, x -> x.use(4, -1, 99));
@@ -132,7 +132,7 @@ final class RefusedTest {
         refused(Scene::busy, STATE, x -> x.use(9, 0, 99));
     }
 
-    // Terms: "A call that throws an exception changes nothing." Promise 6
+    // Terms, promise 6: "A call that throws an exception changes nothing."
     private static void fileChangesNothing() {
         refused(Scene::busy, INDEX, x -> x.file(12, false, 0, 99));
         refused(Scene::busy, INDEX, x -> x.file(5, true, 0, 100));
@@ -142,7 +142,7 @@ final class RefusedTest {
         refused(RefusedTest::full, STATE, x -> x.file(5, true, 0, 99));
     }
 
-    // Terms: "A call that throws an exception changes nothing." Promise 7
+    // Terms, promise 7: "A call that throws an exception changes nothing."
     private static void evidenceChangesNothing() {
         refused(Scene::busy, INDEX, x -> x.evidence(4, true, 9));
         refused(Scene::busy, ARGUMENT, x -> x.evidence(1, true, 10));
@@ -151,7 +151,7 @@ final class RefusedTest {
         refused(Scene::busy, STATE, x -> x.evidence(3, true, 9));
     }
 
-    // Terms: "A call that throws an exception changes nothing." Promise 8
+    // Terms, promise 8: "A call that throws an exception changes nothing."
     private static void decideChangesNothing() {
         refused(Scene::busy, INDEX, x -> x.decide(4));
         refused(Scene::busy, STATE, x -> x.decide(0));
@@ -159,7 +159,7 @@ final class RefusedTest {
         refused(RefusedTest::noMoreParcels, STATE, x -> x.decide(0));
     }
 
-    // Terms: "A call that throws an exception changes nothing." Promise 9
+    // Terms, promise 9: "A call that throws an exception changes nothing."
     private static void appealChangesNothing() {
         refused(Scene::busy, INDEX, x -> x.appeal(-1));
         refused(Scene::busy, STATE, x -> x.appeal(1));
@@ -178,7 +178,7 @@ final class RefusedTest {
         return x;
     }
 
-    // Terms: "A call that throws an exception changes nothing." Promise 10
+    // Terms, promise 10: "A call that throws an exception changes nothing."
     private static void registerChangesNothing() {
         refused(Scene::busy, INDEX, x -> x.register(3, 1, 5, 5));
         refused(Scene::busy, INDEX, x -> x.register(0, 99, 5, 5));
@@ -196,13 +196,13 @@ final class RefusedTest {
         return x;
     }
 
-    // Terms: "A call that throws an exception changes nothing." Promise 11
+    // Terms, promise 11: "A call that throws an exception changes nothing."
     private static void releaseChangesNothing() {
         refused(Scene::busy, INDEX, x -> x.release(-1));
         refused(Scene::busy, INDEX, x -> x.release(80));
     }
 
-    // Terms: "A call that throws an exception changes nothing." Promise 12
+    // Terms, promise 12: "A call that throws an exception changes nothing."
     private static void grazeChangesNothing() {
         refused(Scene::busy, INDEX, x -> x.graze(12, 1, 1));
         refused(Scene::busy, INDEX, x -> x.graze(2, 99, 1));
@@ -211,13 +211,13 @@ final class RefusedTest {
         refused(Scene::busy, STATE, x -> x.graze(5, 1, 1));
     }
 
-    // Terms: "A call that throws an exception changes nothing." Promise 13
+    // Terms, promise 13: "A call that throws an exception changes nothing."
     private static void rainChangesNothing() {
         refused(Scene::busy, ARGUMENT, x -> x.rain(0));
         refused(Scene::busy, ARGUMENT, x -> x.rain(61));
     }
 
-    // Terms: "A call that throws an exception changes nothing." Promise 14
+    // Terms, promise 14: "A call that throws an exception changes nothing."
     private static void digChangesNothing() {
         refused(Scene::busy, INDEX, x -> x.dig(0, 100));
         refused(Scene::busy, ARGUMENT, x -> x.dig(0, 11));
@@ -225,13 +225,13 @@ final class RefusedTest {
         refused(RefusedTest::full, STATE, x -> x.dig(70, 71));
     }
 
-    // Terms: "A call that throws an exception changes nothing." Promise 15
+    // Terms, promise 15: "A call that throws an exception changes nothing."
     private static void fillChangesNothing() {
         refused(Scene::busy, INDEX, x -> x.fill(2));
         refused(Scene::busy, INDEX, x -> x.fill(-1));
     }
 
-    // Terms: "A call that throws an exception changes nothing." Promise 16
+    // Terms, promise 16: "A call that throws an exception changes nothing."
     private static void cutChangesNothing() {
         refused(Scene::busy, INDEX, x -> x.cut(12, 0, 1));
         refused(Scene::busy, INDEX, x -> x.cut(0, 100, 1));
@@ -248,13 +248,13 @@ final class RefusedTest {
         return x;
     }
 
-    // Terms: "A call that throws an exception changes nothing." Promise 17
+    // Terms, promise 17: "A call that throws an exception changes nothing."
     private static void windChangesNothing() {
         refused(Scene::busy, ARGUMENT, x -> x.wind(-1));
         refused(Scene::busy, ARGUMENT, x -> x.wind(10));
     }
 
-    // Terms: "A call that throws an exception changes nothing." Promise 18
+    // Terms, promise 18: "A call that throws an exception changes nothing."
     private static void burnChangesNothing() {
         refused(Scene::busy, INDEX, x -> x.burn(12, 0));
         refused(Scene::busy, INDEX, x -> x.burn(0, 100));
@@ -263,14 +263,14 @@ final class RefusedTest {
         refused(Scene::busy, STATE, x -> x.burn(0, 1));
     }
 
-    // Terms: "A call that throws an exception changes nothing." Promise 19
+    // Terms, promise 19: "A call that throws an exception changes nothing."
     private static void passChangesNothing() {
         refused(Scene::busy, ARGUMENT, x -> x.pass(0));
         refused(Scene::busy, ARGUMENT, x -> x.pass(201));
         refused(RefusedTest::lastDays, STATE, x -> x.pass(11));
     }
 
-    // Terms: "A call that throws an exception changes nothing." Promise 20
+    // Terms, promise 20: "A call that throws an exception changes nothing."
     private static void nameChangesNothing() {
         refused(Scene::busy, INDEX, x -> x.name(12, 5));
         refused(Scene::busy, INDEX, x -> x.name(5, -1));
@@ -286,13 +286,13 @@ final class RefusedTest {
         return x;
     }
 
-    // Terms: "A call that throws an exception changes nothing." Promise 21
+    // Terms, promise 21: "A call that throws an exception changes nothing."
     private static void dieChangesNothing() {
         refused(Scene::busy, INDEX, x -> x.die(12));
         refused(Scene::busy, STATE, x -> x.die(9));
     }
 
-    // Terms: "A call that throws an exception changes nothing." Promises 24 to 34
+    // Terms, promises 24 to 34: "A call that throws an exception changes nothing."
     private static void askingOfNoneChangesNothing() {
         refused(Scene::busy, INDEX, x -> x.parcelOf(100));
         refused(Scene::busy, INDEX, x -> x.chain(0, -1));
@@ -311,7 +311,7 @@ final class RefusedTest {
         throwsAs("the call in " + new Throwable().getStackTrace()[1], due, full(), call);
     }
 
-    // Terms: "If several apply, the one that the throws clause names first is thrown."
+    // Terms, promises 2, 4 to 6 and 14: "If several apply, the one that the throws clause names first is thrown."
     private static void indexAheadOfField() {
         first(INDEX, x -> x.grant(99, 1, 0, 0));
         first(INDEX, x -> x.grant(0, 100, 0, 0));
@@ -328,7 +328,7 @@ final class RefusedTest {
         first(INDEX, x -> x.dig(0, -1));
     }
 
-    // Terms: "If several apply, the one that the throws clause names first is thrown."
+    // Terms, promises 7, 10, 12 and 16: "If several apply, the one that the throws clause names first is thrown."
     private static void indexAheadOfRange() {
         first(INDEX, x -> x.evidence(16, true, 0));
         first(INDEX, x -> x.register(3, 0, 0, 0));
@@ -340,7 +340,7 @@ final class RefusedTest {
         first(INDEX, x -> x.cut(0, 100, 21));
     }
 
-    // Terms: "If several apply, the one that the throws clause names first is thrown."
+    // Terms, promises 2 to 4, 6, 8 to 10, 12, 14, 16, 18, 20 and 21: "If several apply, the one that the throws clause names first is thrown."
     private static void indexAheadOfState() {
         first(INDEX, x -> x.grant(99, 0, 0, 9));
         first(INDEX, x -> x.merge(99, 99));
@@ -360,7 +360,7 @@ final class RefusedTest {
         first(INDEX, x -> x.die(12));
     }
 
-    // Terms: "If several apply, the one that the throws clause names first is thrown."
+    // Terms, promises 2, 4 to 7, 10, 12, 14, 16 and 19: "If several apply, the one that the throws clause names first is thrown."
     private static void argumentAheadOfState() {
         first(ARGUMENT, x -> x.grant(1, 99, 90, 0));
         first(ARGUMENT, x -> x.grant(0, 99, 90, 9));

@@ -16,7 +16,7 @@ import java.util.regex.Pattern;
 final class SentenceTest {
     private static final Path DOC = Path.of("../shared/DOC.md");
     private static final Path TESTS = Path.of("src/test/java");
-    private static final Pattern QUOTING = Pattern.compile("\\s*// (Promise \\d+|Terms|What it is): (\".*)");
+    private static final Pattern QUOTING = Pattern.compile("\\s*// (Promise \\d+|Terms|What it is)(?:, promises? [^:]*)?: (\".*)");
     private static final Pattern QUOTE = Pattern.compile("\"([^\"]*)\"");
     private static final Pattern SECTION = Pattern.compile("## (Promise \\d+|[^:]*).*");
 

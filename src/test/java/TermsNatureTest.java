@@ -59,7 +59,7 @@ final class TermsNatureTest {
         return x;
     }
 
-    // Terms: "A right, of which there can be 80, those that ended too"
+    // Terms, promise 10: "A right, of which there can be 80, those that ended too"
     private static void eightyRights() {
         Peatland x = new Peatland();
         Scene.addEndedRights(x, 79);
@@ -70,7 +70,7 @@ final class TermsNatureTest {
         Check.outOfBounds("none behind it", () -> x.rightAt(80, 0));
     }
 
-    // Terms: "is of a kind, 0 GRAZE, 1 CUT or 2 BURN, on a parcel, for a person; GRAZE has shares"
+    // Terms, promise 10: "is of a kind, 0 GRAZE, 1 CUT or 2 BURN, on a parcel, for a person; GRAZE has shares"
     private static void kindsOfRights() {
         Peatland x = new Peatland();
         x.register(0, 0, 4, 7);
@@ -82,7 +82,7 @@ final class TermsNatureTest {
         }
     }
 
-    // Terms: "Rights are numbered as they are registered, or come to new parcels."
+    // Terms, promise 10: "Rights are numbered as they are registered, or come to new parcels."
     private static void rightsAreNumbered() {
         Peatland x = new Peatland();
         Check.due("the first", x.register(Peatland.CUT, 0, 0, 0), 0);
@@ -96,7 +96,7 @@ final class TermsNatureTest {
         Check.due("behind them", x.register(Peatland.BURN, 0, 0, 0), 8);
     }
 
-    // Terms: "A parcel has room for 2 sheep on each of its squares."
+    // Terms, promise 30: "A parcel has room for 2 sheep on each of its squares."
     private static void roomOfTwoSheep() {
         Peatland x = new Peatland();
         x.register(Peatland.GRAZE, 0, 1, 99);
@@ -109,7 +109,7 @@ final class TermsNatureTest {
         Check.due("89 squares", x.rightAt(0, 3), 99);
     }
 
-    // Terms: "What a right of GRAZE is worth is its shares, but at most that room less the shares of all rights of GRAZE on the parcel with lesser numbers"
+    // Terms, promise 30: "What a right of GRAZE is worth is its shares, but at most that room less the shares of all rights of GRAZE on the parcel with lesser numbers"
     private static void worthOfShares() {
         Peatland x = new Peatland();
         x.grant(0, 0, 9, 0);
@@ -128,7 +128,7 @@ final class TermsNatureTest {
         Check.due("a new one has the last place", x.rightAt(5, 3), 11);
     }
 
-    // Terms: "and at least 0"
+    // Terms, promise 30: "and at least 0"
     private static void worthIsNeverNegative() {
         Peatland x = new Peatland();
         x.grant(0, 0, 0, 0);
@@ -141,7 +141,7 @@ final class TermsNatureTest {
         Check.badState("nor one", () -> x.graze(3, 1, 1));
     }
 
-    // Terms: "Each person can have sheep on a parcel, up to what the person's rights there are worth together by then."
+    // Terms, promise 12: "Each person can have sheep on a parcel, up to what the person's rights there are worth together by then."
     private static void sheepUpToTheirWorth() {
         Peatland x = new Peatland();
         x.grant(0, 0, 4, 0);
@@ -157,7 +157,7 @@ final class TermsNatureTest {
         Check.due("as many as worth by then", x.graze(2, 1, 2), 7);
     }
 
-    // Terms: "Rain gives each square as much, but what would be above 100 runs off."
+    // Terms, promise 13: "Rain gives each square as much, but what would be above 100 runs off."
     private static void rainRunsOff() {
         Peatland x = Scene.wetOnly(44, 45);
         x.rain(38);
@@ -173,7 +173,7 @@ final class TermsNatureTest {
         Check.due("the sums", 4000 + x.water(1) - x.water(2), 10000);
     }
 
-    // Terms: "A drain, of which there can be 20"
+    // Terms, promise 14: "A drain, of which there can be 20"
     private static void twentyDrains() {
         Peatland x = new Peatland();
         for (int i = 1; i < 20; i++) {
@@ -185,7 +185,7 @@ final class TermsNatureTest {
         Check.due("the last one runs", x.square(60, 1), 50);
     }
 
-    // Terms: "goes from a square to one that shares a side with it"
+    // Terms, promise 14: "goes from a square to one that shares a side with it"
     private static void drainsShareASide() {
         Peatland x = new Peatland();
         x.dig(55, 54);
@@ -201,8 +201,8 @@ final class TermsNatureTest {
         Check.badArgument("the first and the last one", () -> x.dig(0, 99));
     }
 
-    // Terms: "On each day it takes the water of the former, divided by 4"
-    // Terms: "All divisions are rounded down."
+    // Terms, promise 19: "On each day it takes the water of the former, divided by 4"
+    // Terms, promise 19: "All divisions are rounded down."
     private static void drainTakesAQuarter() {
         Peatland x = new Peatland();
         x.dig(0, 1);
@@ -214,7 +214,7 @@ final class TermsNatureTest {
         }
     }
 
-    // Terms: "but no more than the latter has room for up to 100"
+    // Terms, promise 19: "but no more than the latter has room for up to 100"
     private static void drainToAFullSquare() {
         Peatland x = Scene.wetOnly(44, 45);
         x.fill(0);
@@ -229,7 +229,7 @@ final class TermsNatureTest {
         Check.due("none is lost", x.water(0), 6800);
     }
 
-    // Terms: "The owner of the parcel of a square can cut and burn it"
+    // Terms, promises 16 and 18: "The owner of the parcel of a square can cut and burn it"
     private static void ownersCutAndBurn() {
         Peatland x = dry(129);
         x.grant(1, 0, 0, 2);
@@ -241,7 +241,7 @@ final class TermsNatureTest {
         Check.due("burn the others", x.burn(0, 99), 44);
     }
 
-    // Terms: "who has a right of CUT on the parcel can cut, who has one of BURN can burn"
+    // Terms, promises 16 and 18: "who has a right of CUT on the parcel can cut, who has one of BURN can burn"
     private static void rightsToCutAndBurn() {
         Peatland x = dry(129);
         x.register(Peatland.CUT, 1, 4, 0);
@@ -259,7 +259,7 @@ final class TermsNatureTest {
         Check.due("the one on the new parcel stays", x.cut(4, 9, 1), 49);
     }
 
-    // Terms: "a parcel of the state can be cut and burnt by those with rights alone"
+    // Terms, promises 16 and 18: "a parcel of the state can be cut and burnt by those with rights alone"
     private static void stateByRightsAlone() {
         Peatland x = new Peatland();
         x.register(Peatland.CUT, 0, 4, 0);
@@ -280,7 +280,7 @@ final class TermsNatureTest {
         }
     }
 
-    // Terms: "A square can be burnt if the wind, 0 to 9, 0 at first, is at most 3"
+    // Terms, promise 18: "A square can be burnt if the wind, 0 to 9, 0 at first, is at most 3"
     private static void burntByTheWind() {
         Peatland x = dry(140);
         Check.due("0 at first", x.burn(0, 0), 45);
@@ -292,7 +292,7 @@ final class TermsNatureTest {
         Check.due("the wind is 3", x.burn(0, 1), 45);
     }
 
-    // Terms: "its water is at most 30"
+    // Terms, promise 18: "its water is at most 30"
     private static void burntByTheWater() {
         Peatland x = dry(130);
         x.rain(2);
@@ -303,7 +303,7 @@ final class TermsNatureTest {
         Check.due("its water is 30", x.burn(0, 0), 45);
     }
 
-    // Terms: "today is at least 60 and at most 150 in its year"
+    // Terms, promise 18: "today is at least 60 and at most 150 in its year"
     private static void burntByTheDay() {
         Peatland x = dry(360 + 59);
         Check.badState("59", () -> x.burn(0, 0));
@@ -319,8 +319,8 @@ final class TermsNatureTest {
         Check.badState("the last day of a year", () -> z.burn(0, 0));
     }
 
-    // Terms: "and it was not burnt in the last 1080 days"
-    // Terms: "(A day is in the last n days if fewer than n have passed since.)"
+    // Terms, promise 18: "and it was not burnt in the last 1080 days"
+    // Terms, promise 18: "(A day is in the last n days if fewer than n have passed since.)"
     private static void burntAfterRest() {
         Peatland x = dry(360 + 80);
         x.burn(0, 0);
@@ -333,7 +333,7 @@ final class TermsNatureTest {
         Check.badState("since the last one", () -> x.burn(0, 0));
     }
 
-    // Terms: "it loses 5 of its peat, or what it has"
+    // Terms, promise 18: "it loses 5 of its peat, or what it has"
     private static void burntLosesWhatItHas() {
         for (int peat = 0; peat <= 7; peat++) {
             Peatland x = dry(140);
@@ -348,7 +348,7 @@ final class TermsNatureTest {
         }
     }
 
-    // Terms: "A square is wet if its water is 60 or more."
+    // Terms, promise 31: "A square is wet if its water is 60 or more."
     private static void wetFromSixty() {
         Peatland x = new Peatland();
         x.rain(19);
@@ -359,7 +359,7 @@ final class TermsNatureTest {
         Check.due("100", x.square(0, 2), 4);
     }
 
-    // Terms: "Its birds are how many squares of it and its neighbours are wet"
+    // Terms, promise 31: "Its birds are how many squares of it and its neighbours are wet"
     private static void birdsCountWetSquares() {
         Peatland x = Scene.wetOnly(44, 45);
         Check.due("itself alone", x.square(45, 2), 1);
@@ -373,7 +373,7 @@ final class TermsNatureTest {
         Check.due("in a corner", x.square(99, 2), 4);
     }
 
-    // Terms: "0 if it was burnt in the last 360 days"
+    // Terms, promise 31: "0 if it was burnt in the last 360 days"
     private static void noBirdsOverFire() {
         Peatland x = dry(140);
         x.burn(0, 55);
@@ -388,7 +388,7 @@ final class TermsNatureTest {
         Check.due("360 days ago", x.square(55, 2), 9);
     }
 
-    // Terms: "or has less than 10 of peat"
+    // Terms, promise 31: "or has less than 10 of peat"
     private static void noBirdsWithoutPeat() {
         Peatland x = new Peatland();
         x.grant(0, 0, 99, 0);
@@ -403,7 +403,7 @@ final class TermsNatureTest {
         Check.due("a neighbour", x.square(56, 2), 9);
     }
 
-    // Terms: "1. Today becomes the next day. Drains run, in order."
+    // Terms, promise 19: "1. Today becomes the next day. Drains run, in order."
     private static void drainsInOrder() {
         Peatland x = new Peatland();
         x.dig(1, 2);
@@ -423,7 +423,7 @@ final class TermsNatureTest {
         Check.due("to there, and then it dries", y.square(54, 1), 49);
     }
 
-    // Terms: "2. If today is at least 120 and below 240 in its year, each square that has water loses 1: it dries."
+    // Terms, promise 19: "2. If today is at least 120 and below 240 in its year, each square that has water loses 1: it dries."
     private static void driesFrom120() {
         Peatland x = new Peatland();
         Scene.passDays(x, 119);
@@ -438,7 +438,7 @@ final class TermsNatureTest {
         Check.due("120 of the next year", x.water(0), 400);
     }
 
-    // Terms: "2. If today is at least 120 and below 240 in its year, each square that has water loses 1: it dries."
+    // Terms, promise 19: "2. If today is at least 120 and below 240 in its year, each square that has water loses 1: it dries."
     private static void driesBelow240() {
         Peatland x = new Peatland();
         Scene.passDays(x, 238);
@@ -451,7 +451,7 @@ final class TermsNatureTest {
         Check.due("a year begins", x.water(0), 100);
     }
 
-    // Terms: "2. If today is at least 120 and below 240 in its year, each square that has water loses 1: it dries."
+    // Terms, promise 19: "2. If today is at least 120 and below 240 in its year, each square that has water loses 1: it dries."
     private static void driesToNothing() {
         Peatland x = Scene.wetOnly(44, 45);
         Scene.passDays(x, 119 - 3);
@@ -467,7 +467,7 @@ final class TermsNatureTest {
         Check.due("dried", x.water(3), 100 * poor + 99);
     }
 
-    // Terms: "3. Of each parcel with more sheep than it has room for, the lowest square that has peat loses 1 of it."
+    // Terms, promise 19: "3. Of each parcel with more sheep than it has room for, the lowest square that has peat loses 1 of it."
     private static void sheepAsManyAsRoom() {
         Peatland x = new Peatland();
         x.grant(0, 0, 1, 0);
@@ -487,7 +487,7 @@ final class TermsNatureTest {
         Check.due("as many again", x.square(1, 0), 49);
     }
 
-    // Terms: "3. Of each parcel with more sheep than it has room for, the lowest square that has peat loses 1 of it."
+    // Terms, promise 19: "3. Of each parcel with more sheep than it has room for, the lowest square that has peat loses 1 of it."
     private static void sheepOfTheFirstAndTheLastParcel() {
         Peatland x = Scene.fortyParcels();
         x.register(Peatland.GRAZE, 0, 1, 99);
@@ -507,7 +507,7 @@ final class TermsNatureTest {
         Check.due("one square of it", y.square(10, 0), 50);
     }
 
-    // Terms: "3. Of each parcel with more sheep than it has room for, the lowest square that has peat loses 1 of it."
+    // Terms, promise 19: "3. Of each parcel with more sheep than it has room for, the lowest square that has peat loses 1 of it."
     private static void lowestSquareWithPeat() {
         Peatland x = new Peatland();
         x.grant(0, 55, 66, 0);
@@ -532,7 +532,7 @@ final class TermsNatureTest {
         Check.due("that of others stays", x.square(55, 0), 50);
     }
 
-    // Terms: "4. If a year begins, each wet square that was not burnt in the last 360 days gets 1 of peat"
+    // Terms, promise 19: "4. If a year begins, each wet square that was not burnt in the last 360 days gets 1 of peat"
     private static void growsAsAYearBegins() {
         Peatland x = new Peatland();
         Scene.passDays(x, 359);
@@ -549,8 +549,8 @@ final class TermsNatureTest {
         Check.due("not wet", y.square(0, 0), 50);
     }
 
-    // Terms: "3. Of each parcel with more sheep than it has room for, the lowest square that has peat loses 1 of it."
-    // Terms: "4. If a year begins, each wet square that was not burnt in the last 360 days gets 1 of peat"
+    // Terms, promise 19: "3. Of each parcel with more sheep than it has room for, the lowest square that has peat loses 1 of it."
+    // Terms, promise 19: "4. If a year begins, each wet square that was not burnt in the last 360 days gets 1 of peat"
     private static void sheepTreadAheadOfTheGrowth() {
         Peatland x = new Peatland();
         x.grant(0, 0, 1, 0);
@@ -566,7 +566,7 @@ final class TermsNatureTest {
         Check.due("on the next day it is lost", x.square(0, 0), 0);
     }
 
-    // Terms: "4. If a year begins, each wet square that was not burnt in the last 360 days gets 1 of peat"
+    // Terms, promise 19: "4. If a year begins, each wet square that was not burnt in the last 360 days gets 1 of peat"
     private static void growsNotOverFire() {
         Peatland x = dry(150);
         x.burn(0, 0);
@@ -581,7 +581,7 @@ final class TermsNatureTest {
         Check.due("burnt 570 days ago", x.square(0, 0), 46);
     }
 
-    // Terms: "up to 200"
+    // Terms, promise 19: "up to 200"
     private static void growsAbove100() {
         Peatland x = new Peatland();
         for (int year = 1; year <= 55; year++) {
@@ -595,7 +595,7 @@ final class TermsNatureTest {
         Check.due("birds", x.square(0, 2), 4);
     }
 
-    // Terms: "then each person who is alive is paid 2 for each wet square of the person's parcels, and 1 for each bird on all of their squares, wet or not"
+    // Terms, promise 33: "then each person who is alive is paid 2 for each wet square of the person's parcels, and 1 for each bird on all of their squares, wet or not"
     private static void paidAsAYearBegins() {
         Peatland x = new Peatland();
         x.grant(0, 0, 0, 3);
@@ -612,7 +612,7 @@ final class TermsNatureTest {
         Check.due("a dry year", x.paid(3), 12);
     }
 
-    // Terms: "then each person who is alive is paid 2 for each wet square of the person's parcels, and 1 for each bird on all of their squares, wet or not"
+    // Terms, promise 33: "then each person who is alive is paid 2 for each wet square of the person's parcels, and 1 for each bird on all of their squares, wet or not"
     private static void paidAfterTheGrowth() {
         Peatland x = new Peatland();
         x.grant(0, 0, 99, 3);
@@ -627,7 +627,7 @@ final class TermsNatureTest {
             x.paid(3), 200 + 64 * 9 + 32 * 6 + 4 * 4);
     }
 
-    // Terms: "then each person who is alive is paid"
+    // Terms, promise 33: "then each person who is alive is paid"
     private static void deadAreNotPaid() {
         Peatland x = new Peatland();
         x.grant(0, 0, 0, 3);
@@ -640,7 +640,7 @@ final class TermsNatureTest {
         Check.due("the heir", x.paid(4), 6);
     }
 
-    // Terms: "A person can name heirs, at most 3, others who are alive."
+    // Terms, promise 20: "A person can name heirs, at most 3, others who are alive."
     private static void threeHeirs() {
         Peatland x = new Peatland();
         Check.due("1", x.name(0, 11), 1);
@@ -653,7 +653,7 @@ final class TermsNatureTest {
         Check.badState("a dead heir stays named", () -> x.name(0, 8));
     }
 
-    // Terms: "When a person dies, the parcels go, by rising numbers, to the heirs who are alive, in turns, in the order in which they were named"
+    // Terms, promise 21: "When a person dies, the parcels go, by rising numbers, to the heirs who are alive, in turns, in the order in which they were named"
     private static void parcelsInTurns() {
         Peatland x = new Peatland();
         for (int i = 1; i <= 7; i++) {
@@ -671,7 +671,7 @@ final class TermsNatureTest {
         }
     }
 
-    // Terms: "to the heirs who are alive"
+    // Terms, promise 21: "to the heirs who are alive"
     private static void livingHeirsAlone() {
         Peatland x = new Peatland();
         for (int i = 1; i <= 3; i++) {
@@ -687,7 +687,7 @@ final class TermsNatureTest {
         Check.due("the last", x.owner(3), 2);
     }
 
-    // Terms: "without one to the state"
+    // Terms, promise 21: "without one to the state"
     private static void withoutHeirToTheState() {
         Peatland x = new Peatland();
         x.grant(0, 1, 1, 0);
@@ -701,7 +701,7 @@ final class TermsNatureTest {
         Check.due("and both can be merged", x.merge(1, 2), 2);
     }
 
-    // Terms: "Then the person's rights, sheep, maps and uses end"
+    // Terms, promise 21: "Then the person's rights, sheep, maps and uses end"
     private static void whatEndsWithAPerson() {
         Peatland x = new Peatland();
         x.grant(0, 0, 9, 1);
@@ -725,7 +725,7 @@ final class TermsNatureTest {
         Check.due("another one's use", x.square(99, 3), 6);
     }
 
-    // Terms: "and then the person's cases that are OPEN are REFUSED, by rising numbers"
+    // Terms, promise 21: "and then the person's cases that are OPEN are REFUSED, by rising numbers"
     private static void openCasesByRisingNumbers() {
         Peatland x = new Peatland();
         x.name(3, 4);

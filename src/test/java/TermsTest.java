@@ -49,7 +49,7 @@ final class TermsTest {
         Check.end("TermsTest");
     }
 
-    // What it is: "An object is used for at most 512 calls after it has been made"
+    // What it is, promises 13 and 6: "An object is used for at most 512 calls after it has been made"
     private static void lastOf512Calls() {
         Peatland x = new Peatland();
         for (int i = 1; i < 512; i++) {
@@ -67,7 +67,7 @@ final class TermsTest {
         Check.due("the call 512, of a case", y.file(3, false, 0, 99), 0);
     }
 
-    // Terms: "Squares are 0 to 99"
+    // Terms, promise 24: "Squares are 0 to 99"
     private static void firstAndLastSquare() {
         Peatland x = new Peatland();
         Check.due("the first square", x.parcelOf(0), 0);
@@ -76,8 +76,8 @@ final class TermsTest {
         Check.outOfBounds("none above", () -> x.parcelOf(100));
     }
 
-    // Terms: "the square s is in the column s modulo 10 and the row s / 10"
-    // Terms: "All divisions are rounded down"
+    // Terms, promise 2: "the square s is in the column s modulo 10 and the row s / 10"
+    // Terms, promise 2: "All divisions are rounded down"
     private static void columnsAndRows() {
         Peatland x = new Peatland();
         Check.due("the column 9", x.area(x.grant(0, 9, 99, 0)), 10);
@@ -90,7 +90,7 @@ final class TermsTest {
         Check.due("not 50", x.parcelOf(50), 0);
     }
 
-    // Terms: "A field is told by two squares: all squares in columns from that of the first one to that of the second one, and in rows likewise, with both"
+    // Terms, promise 2: "A field is told by two squares: all squares in columns from that of the first one to that of the second one, and in rows likewise, with both"
     private static void fieldWithBothCorners() {
         Peatland x = new Peatland();
         x.grant(0, 23, 57, 4);
@@ -101,7 +101,7 @@ final class TermsTest {
         Check.due("all of them", x.area(1), 20);
     }
 
-    // Terms: "it is a field if neither goes down"
+    // Terms, promise 4: "it is a field if neither goes down"
     private static void fieldsThatDoNotGoDown() {
         Peatland x = new Peatland();
         x.survey(3, 0, 0);
@@ -112,7 +112,7 @@ final class TermsTest {
         Check.due("one square, rows, columns and all are fields", x.survey(3, 0, 11), 6);
     }
 
-    // Terms: "it is a field if neither goes down"
+    // Terms, promise 4: "it is a field if neither goes down"
     private static void fieldsThatGoDown() {
         Peatland x = new Peatland();
         Check.badArgument("a column down", () -> x.survey(3, 1, 0));
@@ -135,12 +135,12 @@ final class TermsTest {
         Check.due("squares round " + wet, found, near.length);
     }
 
-    // Terms: "Neighbours of a square are those that share a side or a corner with it, at most 8"
+    // Terms, promise 31: "Neighbours of a square are those that share a side or a corner with it, at most 8"
     private static void neighboursInTheMiddle() {
         birdsAround(Scene.wetOnly(44, 45), 45, 34, 35, 36, 44, 45, 46, 54, 55, 56);
     }
 
-    // Terms: "Neighbours of a square are those that share a side or a corner with it, at most 8"
+    // Terms, promise 31: "Neighbours of a square are those that share a side or a corner with it, at most 8"
     private static void neighboursInCorners() {
         birdsAround(Scene.wetOnly(1, 0), 0, 0, 1, 10, 11);
         birdsAround(Scene.wetOnly(8, 9), 9, 8, 9, 18, 19);
@@ -148,7 +148,7 @@ final class TermsTest {
         birdsAround(Scene.wetOnly(98, 99), 99, 88, 89, 98, 99);
     }
 
-    // Terms: "Neighbours of a square are those that share a side or a corner with it, at most 8"
+    // Terms, promise 31: "Neighbours of a square are those that share a side or a corner with it, at most 8"
     private static void neighboursDoNotWrapAround() {
         birdsAround(Scene.wetOnly(48, 49), 49, 38, 39, 48, 49, 58, 59);
         birdsAround(Scene.wetOnly(51, 50), 50, 40, 41, 50, 51, 60, 61);
@@ -156,7 +156,7 @@ final class TermsTest {
         birdsAround(Scene.wetOnly(94, 95), 95, 84, 85, 86, 94, 95, 96);
     }
 
-    // Terms: "Each square has peat, 50 at first, and water, 40 at first, and is of one parcel."
+    // Terms, promise 1: "Each square has peat, 50 at first, and water, 40 at first, and is of one parcel."
     private static void peatAndWaterAtFirst() {
         Peatland x = new Peatland();
         for (int s = 0; s < 100; s++) {
@@ -165,7 +165,7 @@ final class TermsTest {
         }
     }
 
-    // Terms: "Each square has peat, 50 at first, and water, 40 at first, and is of one parcel."
+    // Terms, promise 26: "Each square has peat, 50 at first, and water, 40 at first, and is of one parcel."
     private static void eachSquareIsOfOneParcel() {
         Peatland x = Scene.fortyParcels();
         x.merge(12, 24);
@@ -176,7 +176,7 @@ final class TermsTest {
         Check.due("squares of all parcels", sum, 100);
     }
 
-    // Terms: "Parcels are numbered from 0, at most 40"
+    // Terms, promise 2: "Parcels are numbered from 0, at most 40"
     private static void parcelsToForty() {
         Peatland x = new Peatland();
         for (int i = 1; i < 40; i++) {
@@ -187,7 +187,7 @@ final class TermsTest {
         Check.outOfBounds("no parcel 40", () -> x.area(40));
     }
 
-    // Terms: "a parcel has an owner, a person, or none, which is the state"
+    // Terms, promise 27: "a parcel has an owner, a person, or none, which is the state"
     private static void ownerIsNoneForTheState() {
         Peatland x = new Peatland();
         x.grant(0, 0, 0, 0);
@@ -197,7 +197,7 @@ final class TermsTest {
         Check.due("the last person", x.owner(2), 11);
     }
 
-    // Terms: "At first there is the parcel 0, of the state, with all squares."
+    // Terms, promise 1: "At first there is the parcel 0, of the state, with all squares."
     private static void parcelZeroAtFirst() {
         Peatland x = new Peatland();
         Check.due("one parcel", x.parcels(), 1);
@@ -206,7 +206,7 @@ final class TermsTest {
         Check.outOfBounds("no other one", () -> x.area(1));
     }
 
-    // Terms: "There are the persons 0 to 11, all alive."
+    // Terms, promise 1: "There are the persons 0 to 11, all alive."
     private static void personsAtFirst() {
         Peatland x = new Peatland();
         for (int p = 0; p < 12; p++) {
@@ -216,12 +216,12 @@ final class TermsTest {
         Check.outOfBounds("none above", () -> x.paid(12));
     }
 
-    // Terms: "Today is the day 0 at first, and at most 20000"
+    // Terms, promise 1: "Today is the day 0 at first, and at most 20000"
     private static void dayZeroAtFirst() {
         Check.due("today", new Peatland().today(), 0);
     }
 
-    // Terms: "Today is the day 0 at first, and at most 20000"
+    // Terms, promise 19: "Today is the day 0 at first, and at most 20000"
     private static void dayTwentyThousand() {
         Peatland x = new Peatland();
         Scene.passDays(x, 19999);
@@ -230,7 +230,7 @@ final class TermsTest {
         Check.due("today stays", x.today(), 20000);
     }
 
-    // Terms: "a year has 360 days, and begins on days that are multiples of that"
+    // Terms, promise 19: "a year has 360 days, and begins on days that are multiples of that"
     private static void yearsBegin() {
         Peatland x = new Peatland();
         x.grant(0, 55, 55, 4);
@@ -255,7 +255,7 @@ final class TermsTest {
         Check.due("on the day 720", x.paid(4), 22);
     }
 
-    // Terms: "To grant a field of a parcel to a person is to make a new parcel of that person of all squares of the field that are of the parcel."
+    // Terms, promise 2: "To grant a field of a parcel to a person is to make a new parcel of that person of all squares of the field that are of the parcel."
     private static void grantTakesItsSquaresAlone() {
         Peatland x = new Peatland();
         x.grant(0, 0, 1, 7);
@@ -269,7 +269,7 @@ final class TermsTest {
         Check.due("that one", x.area(3), 1);
     }
 
-    // Terms: "It has the rights of the old one, in their order, each coming from that."
+    // Terms, promise 2: "It has the rights of the old one, in their order, each coming from that."
     private static void grantedRightsInOrder() {
         Peatland x = new Peatland();
         x.register(Peatland.BURN, 0, 6, 0);
@@ -290,7 +290,7 @@ final class TermsTest {
         Check.due("whence from the new one", x.rightAt(7, 4), 4);
     }
 
-    // Terms: "(The old one stays, with its rights and sheep, also without squares.)"
+    // Terms, promise 2: "(The old one stays, with its rights and sheep, also without squares.)"
     private static void oldParcelWithoutSquares() {
         Peatland x = new Peatland();
         x.grant(0, 0, 0, 1);
@@ -310,7 +310,7 @@ final class TermsTest {
         Check.due("of the state", x.owner(0), -1);
     }
 
-    // Terms: "To merge a parcel into another one with the same owner is to bring all its squares, its sheep and its rights there"
+    // Terms, promise 3: "To merge a parcel into another one with the same owner is to bring all its squares, its sheep and its rights there"
     private static void mergeBringsSquaresAndSheep() {
         Peatland x = new Peatland();
         x.grant(0, 0, 1, 1);
@@ -329,7 +329,7 @@ final class TermsTest {
         Check.due("there", x.rightAt(3, 1), 2);
     }
 
-    // Terms: "To merge a parcel into another one with the same owner is to bring all its squares, its sheep and its rights there"
+    // Terms, promise 3: "To merge a parcel into another one with the same owner is to bring all its squares, its sheep and its rights there"
     private static void mergeOfEmptyParcels() {
         Peatland x = new Peatland();
         x.grant(0, 0, 1, 1);
@@ -347,7 +347,7 @@ final class TermsTest {
         Check.due("both without", x.merge(4, 2), 0);
     }
 
-    // Terms: "those rights that the other one does not have, by kinds and persons, in their order, each coming from the one that it was"
+    // Terms, promise 3: "those rights that the other one does not have, by kinds and persons, in their order, each coming from the one that it was"
     private static void mergeLeavesRightsThatAreThere() {
         Peatland x = new Peatland();
         x.grant(0, 0, 1, 1);
@@ -366,7 +366,7 @@ final class TermsTest {
         Check.due("the shares of the other one's stay", x.rightAt(4, 3), 1);
     }
 
-    // Terms: "the one that was merged has none then, its rights have ended"
+    // Terms, promise 3: "the one that was merged has none then, its rights have ended"
     private static void mergedHasNone() {
         Peatland x = new Peatland();
         x.grant(0, 0, 1, 1);
@@ -382,7 +382,7 @@ final class TermsTest {
         Check.due("none tread", x.square(0, 0) + x.square(5, 0), 100);
     }
 
-    // Terms: "it is taken as that into which it was merged, wherever it is told (chain() tells the number that it had then)"
+    // Terms, promise 3: "it is taken as that into which it was merged, wherever it is told (chain() tells the number that it had then)"
     private static void mergedIsTakenAsTheOther() {
         Peatland x = new Peatland();
         x.grant(0, 0, 0, 1);
@@ -404,7 +404,7 @@ final class TermsTest {
         Check.due("chain by the number of then", x.chain(0, 2), 1);
     }
 
-    // Terms: "A map, of which there can be 12, tells that a field is a person's."
+    // Terms, promise 4: "A map, of which there can be 12, tells that a field is a person's."
     private static void twelveMaps() {
         Peatland x = new Peatland();
         for (int i = 1; i < 12; i++) {
@@ -417,7 +417,7 @@ final class TermsTest {
         Check.due("one that ended makes room", x.survey(6, 12, 12), 12);
     }
 
-    // Terms: "A square is used by one person at most, since a day"
+    // Terms, promise 5: "A square is used by one person at most, since a day"
     private static void oneUserAtMost() {
         Peatland x = new Peatland();
         x.use(3, 0, 1);
@@ -430,7 +430,7 @@ final class TermsTest {
         Check.due("a case for the others", x.caseAt(x.file(4, true, 0, 99), 2), 2);
     }
 
-    // Terms: "who begins to use a field uses all of its squares from today on, but those that the person used already since that day"
+    // Terms, promise 5: "who begins to use a field uses all of its squares from today on, but those that the person used already since that day"
     private static void useBeginsOnce() {
         Peatland x = new Peatland();
         x.use(3, 0, 1);
@@ -446,7 +446,7 @@ final class TermsTest {
         Check.due("and those since the day 100", x.caseAt(x.file(3, true, 0, 99), 2), 3);
     }
 
-    // Terms: "A case, of which there can be 16"
+    // Terms, promise 6: "A case, of which there can be 16"
     private static void sixteenCases() {
         Peatland x = new Peatland();
         x.survey(3, 0, 99);
@@ -459,7 +459,7 @@ final class TermsTest {
         Check.outOfBounds("it is not there", () -> x.caseAt(16, 0));
     }
 
-    // Terms: "for the squares of a field that a map of the person tells"
+    // Terms, promise 6: "for the squares of a field that a map of the person tells"
     private static void caseByMaps() {
         Peatland x = new Peatland();
         x.survey(3, 0, 11);
@@ -472,7 +472,7 @@ final class TermsTest {
         Check.due("as they were filed", x.caseAt(1, 2), 7);
     }
 
-    // Terms: "or that the person has used for 720 days or more"
+    // Terms, promise 6: "or that the person has used for 720 days or more"
     private static void caseByUseOf720Days() {
         Peatland x = new Peatland();
         x.use(3, 0, 11);
@@ -484,7 +484,7 @@ final class TermsTest {
         Check.due("721 days", x.caseAt(x.file(3, true, 1, 99), 2), 2);
     }
 
-    // Terms: "It is OPEN, GRANTED or REFUSED; at first it is OPEN, at the stage 0, with evidence of 0 on both sides."
+    // Terms, promise 6: "It is OPEN, GRANTED or REFUSED; at first it is OPEN, at the stage 0, with evidence of 0 on both sides."
     private static void caseAtFirst() {
         Peatland x = new Peatland();
         Scene.mapped(x, 3, 0, 1);
@@ -507,7 +507,7 @@ final class TermsTest {
         return x.caseAt(0, 0);
     }
 
-    // Terms: "To decide one that is OPEN: it is GRANTED if the evidence for it is more than that against it, otherwise REFUSED."
+    // Terms, promise 8: "To decide one that is OPEN: it is GRANTED if the evidence for it is more than that against it, otherwise REFUSED."
     private static void decidedByMoreEvidence() {
         Check.due("none on both sides", decided(0, 0), Peatland.REFUSED);
         Check.due("1 for it", decided(1, 0), Peatland.GRANTED);
@@ -517,7 +517,7 @@ final class TermsTest {
         Check.due("1 more against it", decided(7, 8), Peatland.REFUSED);
     }
 
-    // Terms: "An appeal makes one that was decided OPEN again, at the next stage, 1 or 2; its evidence stays, and what it gave stays given until it is decided."
+    // Terms, promise 9: "An appeal makes one that was decided OPEN again, at the next stage, 1 or 2; its evidence stays, and what it gave stays given until it is decided."
     private static void appealKeepsAll() {
         Peatland x = new Peatland();
         Scene.mapped(x, 3, 0, 1);
@@ -537,7 +537,7 @@ final class TermsTest {
         Check.badState("no stage 3", () -> x.appeal(0));
     }
 
-    // Terms: "When it is GRANTED, those of its squares that are of parcels of others, or of the state, become a new parcel of the person, without rights, if there are some"
+    // Terms, promise 8: "When it is GRANTED, those of its squares that are of parcels of others, or of the state, become a new parcel of the person, without rights, if there are some"
     private static void grantedTakesFromOthers() {
         Peatland x = new Peatland();
         x.grant(0, 0, 0, 3);
@@ -554,7 +554,7 @@ final class TermsTest {
         Check.outOfBounds("without rights", () -> x.rightAt(2, 0));
     }
 
-    // Terms: "When it is GRANTED, those of its squares that are of parcels of others, or of the state, become a new parcel of the person, without rights, if there are some"
+    // Terms, promise 8: "When it is GRANTED, those of its squares that are of parcels of others, or of the state, become a new parcel of the person, without rights, if there are some"
     private static void grantedTakesNone() {
         Peatland x = new Peatland();
         x.grant(0, 0, 1, 3);
@@ -565,7 +565,7 @@ final class TermsTest {
         Check.due("gives none", x.caseAt(0, 3), 0);
     }
 
-    // Terms: "but not those that another case gave, if that was GRANTED last at a greater stage"
+    // Terms, promise 8: "but not those that another case gave, if that was GRANTED last at a greater stage"
     private static void greaterStageAlone() {
         Peatland x = new Peatland();
         Scene.mapped(x, 1, 0, 0);
@@ -585,7 +585,7 @@ final class TermsTest {
         Check.due("it is taken again", x.owner(x.parcelOf(0)), 2);
     }
 
-    // Terms: "but not those that another case gave, if that was GRANTED last at a greater stage"
+    // Terms, promise 8: "but not those that another case gave, if that was GRANTED last at a greater stage"
     private static void stageWhenGrantedLast() {
         Peatland x = new Peatland();
         Scene.mapped(x, 1, 0, 0);
@@ -603,7 +603,7 @@ final class TermsTest {
         Check.due("GRANTED last at 1, OPEN at 2, against 1", Scene.win(x, 1), 1);
     }
 
-    // Terms: "They are given by this case then, and each one remembers the parcel from which it was taken."
+    // Terms, promise 8: "They are given by this case then, and each one remembers the parcel from which it was taken."
     private static void takenIsRemembered() {
         Peatland x = new Peatland();
         x.grant(0, 1, 1, 4);
@@ -623,7 +623,7 @@ final class TermsTest {
         Check.due("it stays", x.parcelOf(1), 2);
     }
 
-    // Terms: "When it is REFUSED, all squares that are given by it, in whatever parcels they are by then, come back to the parcels from which they were taken"
+    // Terms, promise 8: "When it is REFUSED, all squares that are given by it, in whatever parcels they are by then, come back to the parcels from which they were taken"
     private static void refusedGivesBackWhereverTheyAre() {
         Peatland x = new Peatland();
         x.grant(0, 0, 1, 4);
@@ -644,7 +644,7 @@ final class TermsTest {
         Check.due("none is left there", x.area(3) + x.area(4), 0);
     }
 
-    // Terms: "and are given by none"
+    // Terms, promise 8: "and are given by none"
     private static void refusedAreGivenByNone() {
         Peatland x = new Peatland();
         Scene.mapped(x, 3, 0, 1);
