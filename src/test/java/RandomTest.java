@@ -7,18 +7,22 @@ final class RandomTest {
     /** From this call on only questions are asked, which show what the calls ahead of it left. */
     private static final int LAST_QUESTIONS = 380;
     private static final int FIRST_QUESTION = 20;
+    /** As many columns and rows of the corner to which some runs keep. */
+    private static final int CORNER = 3;
 
     private final Random random;
     private final Peatland moor = new Peatland();
     private final Model model = new Model();
     private final int wildness;
     private final int style;
+    private final boolean isNarrow;
     private final String run;
 
     private RandomTest(int seed) {
         random = new Random(seed);
         wildness = 5 + seed % 40;
         style = seed % 4;
+        isNarrow = seed % 3 == 0;
         run = "run " + seed;
     }
 
@@ -65,11 +69,19 @@ final class RandomTest {
         return random.nextInt(Math.max(1, count));
     }
 
+    /** Some runs keep to a corner of nine squares, where calls meet more often. */
+    private int square() {
+        boolean isInTheCorner = isNarrow && random.nextInt(100) >= wildness;
+        return isInTheCorner ? random.nextInt(CORNER) + 10 * random.nextInt(CORNER) : within(100);
+    }
+
     private int second(int from) {
         if (from < 0 || from > 99 || random.nextInt(100) < wildness) {
             return within(100);
         }
-        return from + random.nextInt(10 - from % 10) + 10 * random.nextInt(10 - from / 10);
+        boolean isInTheCorner = isNarrow && from % 10 < CORNER && from / 10 < CORNER;
+        int side = isInTheCorner ? CORNER : 10;
+        return from + random.nextInt(side - from % 10) + 10 * random.nextInt(side - from / 10);
     }
 
     private int parcel() {
@@ -82,7 +94,7 @@ final class RandomTest {
     }
 
     private int[] arguments(int which) {
-        int s = random.nextInt(4) == 0 ? 0 : within(100);
+        int s = random.nextInt(4) == 0 ? 0 : square();
         switch (which) {
             case 0:
                 return new int[] {parcel(), s, second(s), person()};
@@ -122,9 +134,9 @@ final class RandomTest {
             case 20: case 21:
                 return new int[0];
             case 22: case 26:
-                return new int[] {within(100)};
+                return new int[] {square()};
             case 23: case 29:
-                return new int[] {within(100), within(4)};
+                return new int[] {square(), within(4)};
             case 24: case 25:
                 return new int[] {parcel()};
             case 27:

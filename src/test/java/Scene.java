@@ -26,8 +26,10 @@ final class Scene {
     /** Decides for it, whatever the evidence was. */
     static int win(Peatland x, int number) {
         int against = x.evidence(number, false, 1);
-        while (x.evidence(number, true, 9) <= against) {
-            continue;
+        for (int told = 0; told <= against; told += 9) {
+            if (x.evidence(number, true, 9) > against) {
+                break;
+            }
         }
         return x.decide(number);
     }
@@ -35,8 +37,10 @@ final class Scene {
     /** Decides against it, whatever the evidence was. */
     static int lose(Peatland x, int number) {
         int told = x.evidence(number, true, 1);
-        while (x.evidence(number, false, 9) < told) {
-            continue;
+        for (int against = 0; against < told; against += 9) {
+            if (x.evidence(number, false, 9) >= told) {
+                break;
+            }
         }
         return x.decide(number);
     }
@@ -157,124 +161,233 @@ final class Scene {
         lose(x, 3);
     }
 
-    private static void askSquares(List<ToIntFunction<Peatland>> all) {
-        for (int i = 0; i < 100; i++) {
-            int s = i;
-            all.add(x -> x.parcelOf(s));
-            all.add(x -> x.disputed(s));
-            for (int j = 0; j < 4; j++) {
-                int n = j;
-                all.add(x -> x.chain(s, n));
-                all.add(x -> x.square(s, n));
+    /** A call whose answer tells something of the moor. */
+    private static final class Question {
+        final String name;
+        final ToIntFunction<Peatland> call;
+
+        Question(String name, ToIntFunction<Peatland> call) {
+            this.name = name;
+            this.call = call;
+        }
+
+        String outcome(Peatland x) {
+            try {
+                return String.valueOf(call.applyAsInt(x));
+            } catch (IndexOutOfBoundsException e) {
+                return "none";
+            } catch (IllegalArgumentException e) {
+                return "bad";
+            } catch (IllegalStateException e) {
+                return "refused";
             }
         }
     }
 
-    private static void askParcelsAndPersons(List<ToIntFunction<Peatland>> all) {
+    private static void askSquares(List<Question> all) {
+        for (int i = 0; i < 100; i++) {
+            int s = i;
+            all.add(new Question("parcelOf " + s, x -> x.parcelOf(s)));
+            all.add(new Question("disputed " + s, x -> x.disputed(s)));
+            for (int j = 0; j < 4; j++) {
+                int n = j;
+                all.add(new Question("chain " + s + " " + n, x -> x.chain(s, n)));
+                all.add(new Question("square " + s + " " + n, x -> x.square(s, n)));
+            }
+        }
+    }
+
+    private static void askParcelsAndPersons(List<Question> all) {
         for (int i = 0; i <= 40; i++) {
             int p = i;
-            all.add(x -> x.area(p));
-            all.add(x -> x.owner(p));
+            all.add(new Question("area " + p, x -> x.area(p)));
+            all.add(new Question("owner " + p, x -> x.owner(p)));
             for (int j = 0; j < 12; j++) {
                 int person = j;
-                all.add(x -> x.sheep(person, p));
+                all.add(new Question("sheep " + person + " " + p, x -> x.sheep(person, p)));
             }
         }
         for (int j = 0; j < 12; j++) {
             int person = j;
-            all.add(x -> x.paid(person));
+            all.add(new Question("paid " + person, x -> x.paid(person)));
         }
     }
 
-    private static void askNumbered(List<ToIntFunction<Peatland>> all) {
-        all.add(Peatland::today);
-        all.add(Peatland::parcels);
+    private static void askNumbered(List<Question> all) {
+        all.add(new Question("today", Peatland::today));
+        all.add(new Question("parcels", Peatland::parcels));
         for (int j = 0; j < 5; j++) {
             int n = j;
-            all.add(x -> x.water(n));
+            all.add(new Question("water " + n, x -> x.water(n)));
             for (int i = 0; i <= 80; i++) {
                 int number = i;
-                all.add(x -> x.rightAt(number, n));
+                all.add(new Question("rightAt " + number + " " + n, x -> x.rightAt(number, n)));
             }
             for (int i = 0; i <= 16; i++) {
                 int number = i;
-                all.add(x -> x.caseAt(number, n));
+                all.add(new Question("caseAt " + number + " " + n, x -> x.caseAt(number, n)));
             }
         }
     }
 
-    /** What can't be asked shows in what is done later: the wind, evidence, maps, drains, heirs, days. */
-    private static void doAll(List<ToIntFunction<Peatland>> all) {
+    /** What can't be asked shows in what is done later: maps, uses, evidence. */
+    private static List<Question> laterCases() {
+        List<Question> all = new ArrayList<>();
         for (int i = 0; i < 12; i++) {
             int person = i;
-            all.add(x -> x.name(person, 10));
-            all.add(x -> x.use(person, 80 + person, 80 + person));
-            all.add(x -> x.file(person, true, 0, 79));
-            all.add(x -> x.file(person, false, 0, 99));
+            all.add(new Question("use " + person, x -> x.use(person, 80 + person, 80 + person)));
+            all.add(new Question("file by use " + person, x -> x.file(person, true, 0, 79)));
+            all.add(new Question("file by maps " + person, x -> x.file(person, false, 0, 99)));
         }
-        all.add(x -> x.wind(0));
-        all.add(x -> x.survey(8, 0, 0));
-        all.add(x -> x.register(Peatland.CUT, 0, 8, 0));
-        all.add(x -> x.grant(0, 0, 99, 11));
+        all.add(new Question("survey", x -> x.survey(8, 0, 0)));
         for (int i = 0; i < 16; i++) {
             int number = i;
-            all.add(x -> x.evidence(number, true, 2));
-            all.add(x -> x.evidence(number, false, 1));
-            all.add(x -> x.decide(number));
-            all.add(x -> x.appeal(number));
+            all.add(new Question("squares " + number, x -> x.caseAt(number, 2)));
+            all.add(new Question("for " + number, x -> x.evidence(number, true, 2)));
+            all.add(new Question("against " + number, x -> x.evidence(number, false, 1)));
+            all.add(new Question("decide " + number, x -> x.decide(number)));
+            all.add(new Question("given " + number, x -> x.caseAt(number, 3)));
+            all.add(new Question("appeal " + number, x -> x.appeal(number)));
         }
-        for (int s = 0; s < 2; s++) {
-            int square = s;
-            all.add(x -> x.burn(0, 99 * square));
-            all.add(x -> x.pass(200));
-            all.add(x -> x.square(91, 1));
-            all.add(x -> x.fill(1));
-            all.add(x -> x.paid(1));
-        }
-        all.add(x -> x.die(0));
-        all.add(x -> x.owner(1));
-        all.add(x -> x.area(0));
+        return all;
     }
 
-    private static List<List<ToIntFunction<Peatland>>> questions() {
-        List<ToIntFunction<Peatland>> all = new ArrayList<>();
+    /** Where squares come back to as each case is REFUSED. */
+    private static List<Question> laterRefusals() {
+        List<Question> all = new ArrayList<>();
+        for (int i = 0; i < 4; i++) {
+            int number = i;
+            all.add(new Question("appeal again " + number, x -> x.appeal(number)));
+            all.add(new Question("lose " + number, x -> lose(x, number)));
+            for (int s : new int[] {40, 41, 42, 43, 44, 45, 60}) {
+                all.add(new Question("parcel of " + s + " after " + number, x -> x.parcelOf(s)));
+            }
+        }
+        return all;
+    }
+
+    /** What a new case can take at the stage 0. */
+    private static List<Question> laterRanks() {
+        List<Question> all = new ArrayList<>();
+        all.add(new Question("map of all", x -> x.survey(8, 0, 99)));
+        all.add(new Question("take all", x -> win(x, x.file(8, false, 0, 99))));
+        for (int s : new int[] {0, 40, 41, 42, 43, 44, 55, 60}) {
+            all.add(new Question("owner of the parcel of " + s, x -> x.owner(x.parcelOf(s))));
+        }
+        return all;
+    }
+
+    /**
+     * The wind, drains, days on which squares were burnt, sheep, and what the next years bring: from the
+     * day 80 of a year on, each time rain 80 days ahead of the next one, and fire on the day 150 of that.
+     */
+    private static List<Question> laterDays() {
+        List<Question> all = new ArrayList<>();
+        all.add(new Question("wind", x -> x.wind(0)));
+        for (int i = 0; i < 4; i++) {
+            String year = " in year " + i;
+            for (int s : new int[] {0, 11, 40, 50, 99}) {
+                all.add(new Question("burn " + s + " by 0" + year, x -> x.burn(0, s)));
+                all.add(new Question("burn " + s + " by 4" + year, x -> x.burn(4, s)));
+            }
+            int untilRain = i == 0 ? 200 : 130;
+            all.add(new Question("pass" + year, x -> x.pass(untilRain)));
+            all.add(new Question("rain" + year, x -> x.rain(60)));
+            all.add(new Question("first" + year, x -> x.pass(1)));
+            all.add(new Question("water of 61 first" + year, x -> x.square(61, 1)));
+            all.add(new Question("water of 91 first" + year, x -> x.square(91, 1)));
+            all.add(new Question("begin" + year, x -> x.pass(79)));
+            for (int s : new int[] {0, 5, 11, 21, 40, 50, 99}) {
+                all.add(new Question("peat of " + s + year, x -> x.square(s, 0)));
+                all.add(new Question("water of " + s + year, x -> x.square(s, 1)));
+            }
+            for (int p = 0; p < 8; p++) {
+                int person = p;
+                all.add(new Question("paid " + person + year, x -> x.paid(person)));
+            }
+            all.add(new Question("dry" + year, x -> x.pass(150)));
+        }
+        return all;
+    }
+
+    /** Drains, heirs, and the next number of a right. */
+    private static List<Question> laterDeaths() {
+        List<Question> all = new ArrayList<>();
+        all.add(new Question("register", x -> x.register(Peatland.CUT, 0, 8, 0)));
+        all.add(new Question("fill", x -> x.fill(0)));
+        for (int i = 0; i < 12; i++) {
+            int person = i;
+            all.add(new Question("name by " + person, x -> x.name(person, 10)));
+            all.add(new Question("die " + person, x -> x.die(person)));
+            for (int p = 0; p < 8; p++) {
+                int parcel = p;
+                all.add(new Question("owner of " + parcel + " after " + person, x -> x.owner(parcel)));
+            }
+        }
+        return all;
+    }
+
+    /** All that can be asked, in parts, since each moor is used for 512 calls alone. */
+    private static List<List<Question>> asked() {
+        List<Question> all = new ArrayList<>();
         askSquares(all);
         askParcelsAndPersons(all);
         askNumbered(all);
-        List<List<ToIntFunction<Peatland>>> parts = new ArrayList<>();
+        List<List<Question>> parts = new ArrayList<>();
         for (int i = 0; i < all.size(); i += CALLS_FOR_QUESTIONS) {
             parts.add(all.subList(i, Math.min(all.size(), i + CALLS_FOR_QUESTIONS)));
         }
-        List<ToIntFunction<Peatland>> later = new ArrayList<>();
-        doAll(later);
-        parts.add(later);
         return parts;
+    }
+
+    private static List<String> changes(List<Question> part, Supplier<Peatland> scene, Consumer<Peatland> call) {
+        List<String> found = new ArrayList<>();
+        Peatland with = scene.get();
+        Peatland without = scene.get();
+        call.accept(with);
+        for (Question each : part) {
+            String before = each.outcome(without);
+            String after = each.outcome(with);
+            if (!after.equals(before)) {
+                found.add(each.name + ": " + before + " > " + after);
+            }
+        }
+        return found;
+    }
+
+    /** What the call changes of all that can be asked, each told as in: square 3 0: 50 > 45. */
+    static List<String> changes(Supplier<Peatland> scene, Consumer<Peatland> call) {
+        List<String> found = new ArrayList<>();
+        for (List<Question> part : asked()) {
+            found.addAll(changes(part, scene, call));
+        }
+        return found;
+    }
+
+    /** What it changes of what maps, uses and cases bring later. */
+    static List<String> changesOfCases(Supplier<Peatland> scene, Consumer<Peatland> call) {
+        List<String> found = changes(laterCases(), scene, call);
+        found.addAll(changes(laterRefusals(), scene, call));
+        found.addAll(changes(laterRanks(), scene, call));
+        return found;
+    }
+
+    /** What it changes of what days bring later. */
+    static List<String> changesOfDays(Supplier<Peatland> scene, Consumer<Peatland> call) {
+        return changes(laterDays(), scene, call);
+    }
+
+    /** What it changes of what deaths bring later. */
+    static List<String> changesOfDeaths(Supplier<Peatland> scene, Consumer<Peatland> call) {
+        return changes(laterDeaths(), scene, call);
     }
 
     /** That the call changes nothing: all that is asked and done then is as without it. */
     static void unchanged(String what, Supplier<Peatland> scene, Consumer<Peatland> call) {
-        int part = 0;
-        for (List<ToIntFunction<Peatland>> each : questions()) {
-            Peatland with = scene.get();
-            Peatland without = scene.get();
-            call.accept(with);
-            for (int i = 0; i < each.size(); i++) {
-                long due = outcome(each.get(i), without);
-                Check.due(what + " changes part " + part + ", question " + i, outcome(each.get(i), with), due);
-            }
-            part++;
-        }
-    }
-
-    private static long outcome(ToIntFunction<Peatland> question, Peatland x) {
-        try {
-            return question.applyAsInt(x);
-        } catch (IndexOutOfBoundsException e) {
-            return -10;
-        } catch (IllegalArgumentException e) {
-            return -20;
-        } catch (IllegalStateException e) {
-            return -30;
-        }
+        List<String> found = changes(scene, call);
+        found.addAll(changesOfCases(scene, call));
+        found.addAll(changesOfDays(scene, call));
+        found.addAll(changesOfDeaths(scene, call));
+        Check.due(what + " changes " + found, found.size(), 0);
     }
 }
